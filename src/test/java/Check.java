@@ -18,7 +18,7 @@ final class Check {
     }
 
     /** The call throws just this exception, and the object is the same afterwards. */
-    static void refuses(EditRelay relay, String what, Class<? extends RuntimeException> due, Runnable call) {
+    static void refuses(Relay relay, String what, Class<? extends RuntimeException> due, Runnable call) {
         String before = stateOf(relay);
         same(what, due.getSimpleName(), thrownBy(call));
         same(what + ", the state afterwards", before, stateOf(relay));
@@ -33,24 +33,32 @@ final class Check {
         }
     }
 
-    static String textOf(EditRelay relay, int site) {
+    static String textOf(Relay relay, int site) {
         StringBuilder text = new StringBuilder();
-        for (int at = 0; at < relay.size(site); at++) {
+        int size = relay.size(site);
+        for (int at = 0; at < size; at++) {
             text.append((char) relay.letter(site, at));
         }
         return text.toString();
     }
 
-    static List<Integer> openOf(EditRelay relay, int client, boolean up) {
+    static List<Integer> openOf(Relay relay, int client, boolean up) {
         List<Integer> open = new ArrayList<>();
-        for (int i = 0; i < relay.open(client, up); i++) {
+        int count = relay.open(client, up);
+        for (int i = 0; i < count; i++) {
             open.add(relay.change(client, up, i));
         }
         return open;
     }
 
+    /** So many of the open changes, up to the newest. */
+    static List<Integer> lastOpenOf(Relay relay, int client, boolean up, int many) {
+        List<Integer> open = openOf(relay, client, up);
+        return open.subList(Math.max(0, open.size() - many), open.size());
+    }
+
     /** All that the face shows, in one text. */
-    static String stateOf(EditRelay relay) {
+    static String stateOf(Relay relay) {
         StringBuilder state = new StringBuilder();
         for (int site = 0; site <= 3; site++) {
             state.append('"').append(textOf(relay, site)).append("\" ");

@@ -46,7 +46,7 @@ final class Model {
         int got = 0;
     }
 
-    final StringBuilder[] texts = new StringBuilder[4];
+    private final StringBuilder[] texts = new StringBuilder[4];
     private final Line[] ups = new Line[4];
     private final Line[] downs = new Line[4];
 
@@ -58,7 +58,7 @@ final class Model {
         }
     }
 
-    Line line(int client, boolean up) {
+    private Line line(int client, boolean up) {
         return up ? ups[client] : downs[client];
     }
 
@@ -108,6 +108,39 @@ final class Model {
         return get(client, downs[client], ups[client]).kind;
     }
 
+    int waiting(int client, boolean up) {
+        refuseArgumentIf(client < 1 || client > 3);
+        return line(client, up).messages.size();
+    }
+
+    int got(int client, boolean up) {
+        refuseArgumentIf(client < 1 || client > 3);
+        return line(client, up).got;
+    }
+
+    int open(int client, boolean up) {
+        refuseArgumentIf(client < 1 || client > 3);
+        return line(client, up).open.size();
+    }
+
+    int change(int client, boolean up, int i) {
+        refuseArgumentIf(client < 1 || client > 3);
+        List<Open> open = line(client, up).open;
+        refuseIndexIf(i < 0 || i >= open.size());
+        return told(open.get(i).change);
+    }
+
+    int size(int site) {
+        refuseArgumentIf(site < 0 || site > 3);
+        return texts[site].length();
+    }
+
+    int letter(int site, int at) {
+        refuseArgumentIf(site < 0 || site > 3);
+        refuseIndexIf(at < 0 || at >= texts[site].length());
+        return texts[site].charAt(at);
+    }
+
     boolean alike() {
         String server = texts[0].toString();
         return server.contentEquals(texts[1]) && server.contentEquals(texts[2]) && server.contentEquals(texts[3]);
@@ -137,9 +170,13 @@ final class Model {
     private static String told(Line line) {
         List<Integer> open = new ArrayList<>();
         for (Open b : line.open) {
-            open.add(1000 * b.change.kind + 10 * b.change.place + b.change.origin);
+            open.add(told(b.change));
         }
         return line.messages.size() + " " + line.got + " " + open + " ";
+    }
+
+    private static int told(Change change) {
+        return 1000 * change.kind + 10 * change.place + change.origin;
     }
 
     private void make(Change change) {

@@ -1,21 +1,18 @@
 import java.util.Random;
 import java.util.function.IntSupplier;
 
-/**
- * Mixed runs of 512 calls: every answer, and the whole state behind every call, as the model has them.
- * The calls that only look come on top of the 512: EditRelay keeps no count of its calls.
- */
+/** Mixed runs of up to 512 calls of every kind: every answer, and the whole state in the end, as the model has them. */
 public final class ModelTest {
-    private static final int RUNS = 1000;
-    private static final int CALLS = 512;
+    private static final int RUNS = 4000;
+    private static final int LEFT_FOR_HANDING_ON = 100;
 
     private final Random random;
     private final int run;
     // The document's limits let the lines jam for good: a tame run keeps away from that, a wild one does not.
     private final boolean tame;
-    private final EditRelay relay = new EditRelay();
+    private final Relay relay = new Relay();
     private final Model model = new Model();
-    private final int[] weights = new int[5];
+    private final int[] weights = new int[6];
     private int calls = 0;
 
     private ModelTest(int run) {
@@ -35,8 +32,9 @@ public final class ModelTest {
     }
 
     private void play() {
-        int callsLeftForHandingOn = tame ? 100 : 0;
-        while (calls < CALLS - callsLeftForHandingOn) {
+        int most = Relay.MOST_CALLS - (tame ? LEFT_FOR_HANDING_ON : 0);
+        int length = run % 3 == 0 ? most : 1 + random.nextInt(most);
+        while (calls < length) {
             anyCall();
             if (tame && nearJam()) {
                 handOnAndNod();
@@ -44,19 +42,24 @@ public final class ModelTest {
         }
         if (tame) {
             handOnAll();
-            Check.same("run " + run + ": quiet when all has been handed on", true, relay.quiet());
+            Check.same("run " + run + ": quiet when all has been handed on", true, model.quiet());
+            Check.same("run " + run + ": alike when all has been handed on", true, model.alike());
         }
+        // What only looks is not made again on a new object, so a look that changes something shows here too.
+        Check.same("run " + run + ": the state in the end", model.state(), Check.stateOf(relay));
     }
 
     private void anyCall() {
         int client = random.nextInt(40) == 0 ? random.nextInt(7) - 1 : 1 + random.nextInt(3);
         int choice = weighted();
-        if (choice == 3) {
-            push(client);
+        if (choice == 5) {
+            look(client);
         } else if (choice == 4) {
             pull(client);
+        } else if (choice == 3) {
+            push(client);
         } else if (!tame || !hasMuchUnderWay(client)) {
-            makeAny(choice, client);
+            make(choice, client);
         }
     }
 
@@ -74,7 +77,7 @@ public final class ModelTest {
         return choice;
     }
 
-    private void makeAny(int choice, int client) {
+    private void make(int choice, int client) {
         if (choice == 0) {
             insert(client);
         } else if (choice == 1) {
@@ -111,22 +114,42 @@ public final class ModelTest {
         both("pull(" + client + ")", () -> model.pull(client), () -> relay.pull(client));
     }
 
-    /** Mostly a place of the client's text, near its start so that changes meet; sometimes none. */
+    private void look(int client) {
+        boolean up = random.nextBoolean();
+        int i = random.nextInt(random.nextBoolean() ? 4 : 30) - 1;
+        int site = random.nextInt(3) == 0 ? 0 : client;
+        String line = "(" + client + ", " + up + ")";
+        switch (random.nextInt(8)) {
+            case 0 -> both("waiting" + line, () -> model.waiting(client, up), () -> relay.waiting(client, up));
+            case 1 -> both("got" + line, () -> model.got(client, up), () -> relay.got(client, up));
+            case 2 -> both("open" + line, () -> model.open(client, up), () -> relay.open(client, up));
+            case 3 -> both("change" + line + i, () -> model.change(client, up, i), () -> relay.change(client, up, i));
+            case 4 -> both("size(" + site + ")", () -> model.size(site), () -> relay.size(site));
+            case 5 -> both("letter(" + site + ", " + i + ")", () -> model.letter(site, i), () -> relay.letter(site, i));
+            case 6 -> both("alike()", () -> model.alike() ? 1 : 0, () -> relay.alike() ? 1 : 0);
+            default -> both("quiet()", () -> model.quiet() ? 1 : 0, () -> relay.quiet() ? 1 : 0);
+        }
+    }
+
+    /** Mostly a place of the client's text, often near its start so that changes meet; sometimes none. */
     private int anyPlace(int client, int beyond) {
-        int places = client < 1 || client > 3 ? 1 : model.texts[client].length() + beyond;
+        int places = isClient(client) ? model.size(client) + beyond : 1;
         if (places == 0 || random.nextInt(30) == 0) {
             return random.nextInt(places + 4) - 2;
         }
         return random.nextInt(random.nextBoolean() ? Math.min(places, 3) : places);
     }
 
+    private static boolean isClient(int client) {
+        return client >= 1 && client <= 3;
+    }
+
     private boolean hasMuchUnderWay(int client) {
-        boolean isClient = client >= 1 && client <= 3;
-        return isClient && (relay.waiting(client, true) > 4 || relay.open(client, true) > 12);
+        return isClient(client) && (model.waiting(client, true) > 4 || model.open(client, true) > 12);
     }
 
     private boolean nearJam() {
-        return relay.open(1, false) > 11 || relay.open(2, false) > 11 || relay.open(3, false) > 11;
+        return model.open(1, false) > 11 || model.open(2, false) > 11 || model.open(3, false) > 11;
     }
 
     private void handOnAndNod() {
@@ -139,12 +162,12 @@ public final class ModelTest {
     }
 
     private void handOnAll() {
-        for (int round = 0; round < 50 && !relay.quiet(); round++) {
+        for (int round = 0; round < 50 && !model.quiet(); round++) {
             for (int client = 1; client <= 3; client++) {
-                if (relay.waiting(client, false) > 0) {
+                if (model.waiting(client, false) > 0) {
                     pull(client);
                 }
-                if (relay.waiting(client, true) > 0) {
+                if (model.waiting(client, true) > 0) {
                     push(client);
                 }
             }
@@ -153,15 +176,10 @@ public final class ModelTest {
 
     private void both(String call, IntSupplier due, IntSupplier answered) {
         calls++;
-        if (calls > CALLS) {
-            return;
+        if (calls > Relay.MOST_CALLS) {
+            throw new AssertionError("a run asks more of an object than the document promises");
         }
-        String name = "run " + run + ", call " + calls + ": " + call;
-        Check.same(name, outcome(due), outcome(answered));
-        Check.same(name + ", the state afterwards", model.state(), Check.stateOf(relay));
-        if (relay.quiet()) {
-            Check.same(name + ", alike when nothing waits", true, relay.alike());
-        }
+        Check.same("run " + run + ", call " + calls + ": " + call, outcome(due), outcome(answered));
     }
 
     private static String outcome(IntSupplier call) {

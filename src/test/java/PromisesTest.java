@@ -1,6 +1,6 @@
 import java.util.List;
 
-/** Each promise of the document by itself: ordinary inputs, the edges it names, and wrong inputs. */
+/** Each promise of the document by itself, in ordinary use and with wrong inputs; the edges are in BoundariesTest. */
 public final class PromisesTest {
     private static final Class<IllegalArgumentException> ARGUMENT = IllegalArgumentException.class;
     private static final Class<IndexOutOfBoundsException> INDEX = IndexOutOfBoundsException.class;
@@ -8,19 +8,13 @@ public final class PromisesTest {
     private static final Class<UnsupportedOperationException> UNSUPPORTED = UnsupportedOperationException.class;
     private static final int[] NO_CLIENTS = {0, 4, -1, Integer.MIN_VALUE, Integer.MAX_VALUE};
     private static final int[] NO_SITES = {4, -1, Integer.MIN_VALUE, Integer.MAX_VALUE};
-    /** In place of a letter: that one is deleted. */
-    private static final char DEL = 0;
 
     public static void main(String[] args) {
-        fitting();
-        knowing();
         newObject();
         insert();
-        insertLimits();
         delete();
         nod();
         push();
-        pushLimits();
         pull();
         waiting();
         got();
@@ -30,171 +24,27 @@ public final class PromisesTest {
         letter();
         alike();
         quiet();
-        greatestTexts();
         objectsApart();
         Check.end("PromisesTest");
     }
 
-    // ---- how the tests bring an object to where they want it
-
-    private static EditRelay relayWith(String text) {
-        EditRelay relay = new EditRelay();
-        for (int i = 0; i < text.length(); i++) {
-            relay.insert(1, i, text.charAt(i));
-            if (relay.waiting(1, true) == 12) {
-                settle(relay);
-            }
-        }
-        settle(relay);
-        return relay;
-    }
-
-    private static void handOn(EditRelay relay) {
-        while (!relay.quiet()) {
-            for (int client = 1; client <= 3; client++) {
-                pullAll(relay, client);
-                if (relay.waiting(client, true) > 0) {
-                    relay.push(client);
-                }
-            }
-        }
-    }
-
-    /** Hands all on and lets everybody nod in turn: then nothing is open on a client's side but the nod of 3. */
-    private static void settle(EditRelay relay) {
-        for (int round = 0; round < 2; round++) {
-            for (int client = 1; client <= 3; client++) {
-                handOn(relay);
-                relay.nod(client);
-            }
-        }
-        handOn(relay);
-    }
-
-    private static void insertMany(EditRelay relay, int client, int many) {
-        for (int i = 0; i < many; i++) {
-            relay.insert(client, 0, (char) ('a' + i % 26));
-        }
-    }
-
-    private static void nodMany(EditRelay relay, int client, int many) {
-        for (int i = 0; i < many; i++) {
-            relay.nod(client);
-        }
-    }
-
-    private static void pushAll(EditRelay relay, int client) {
-        while (relay.waiting(client, true) > 0) {
-            relay.push(client);
-        }
-    }
-
-    private static void pullAll(EditRelay relay, int client) {
-        while (relay.waiting(client, false) > 0) {
-            relay.pull(client);
-        }
-    }
-
-    private static void texts(EditRelay relay, String what, String due) {
+    private static void texts(Relay relay, String what, String due) {
         for (int site = 0; site <= 3; site++) {
             Check.same(what + ", site " + site, due, Check.textOf(relay, site));
         }
     }
 
-    // ---- the terms
-
-    /** One change of client 1 and one of client 2 meet, got by the server in either order. */
-    private static void fitting() {
-        meet("an insert before an insert", 1, 'x', 3, 'y', "axbcyd");
-        meet("an insert behind an insert", 3, 'x', 1, 'y', "aybcxd");
-        meet("two inserts at one place: the lesser origin's letter comes first", 2, 'x', 2, 'y', "abxycd");
-        meet("an insert before a delete", 1, 'x', 2, DEL, "axbd");
-        meet("an insert at a deleted letter's place", 2, 'x', 2, DEL, "abxd");
-        meet("an insert behind a deleted letter", 3, 'x', 2, DEL, "abxd");
-        meet("an insert at the end and a delete", 4, 'x', 3, DEL, "abcx");
-        meet("a delete before an insert", 1, DEL, 3, 'y', "acyd");
-        meet("a delete at an insert's place", 1, DEL, 1, 'y', "aycd");
-        meet("a delete behind an insert", 3, DEL, 1, 'y', "aybc");
-        meet("a delete before a delete", 0, DEL, 2, DEL, "bd");
-        meet("a delete behind a delete", 3, DEL, 1, DEL, "ac");
-        meet("two deletes of one letter", 2, DEL, 2, DEL, "abd");
-        fittedRows();
-    }
-
-    private static void meet(String what, int at1, char letter1, int at2, char letter2, String due) {
-        for (int first = 1; first <= 2; first++) {
-            EditRelay relay = relayWith("abcd");
-            make(relay, 1, at1, letter1);
-            make(relay, 2, at2, letter2);
-            relay.push(first);
-            relay.push(3 - first);
-            handOn(relay);
-            texts(relay, what + ", " + first + " first", due);
-        }
-    }
-
-    private static void make(EditRelay relay, int client, int at, char letter) {
-        if (letter == DEL) {
-            relay.delete(client, at);
-        } else {
-            relay.insert(client, at, letter);
-        }
-    }
-
-    /** A message's change goes through the whole row of open ones, and each of them is fitted to it in turn. */
-    private static void fittedRows() {
-        EditRelay relay = relayWith("abcd");
-        relay.delete(1, 2);
-        relay.insert(1, 1, 'x');
-        relay.delete(1, 0);
-        relay.delete(2, 2);
-        relay.push(2);
-        Check.same("open before", List.of(1021, 11, 1001), Check.openOf(relay, 1, true));
-        Check.same("the delete of a letter that is gone", EditRelay.NOTHING, relay.pull(1));
-        Check.same("open afterwards", List.of(2001, 11, 1001), Check.openOf(relay, 1, true));
-        relay.insert(3, 1, 'y');
-        relay.push(3);
-        Check.same("an insert through the row", EditRelay.INSERT, relay.pull(1));
-        Check.same("the lesser origin's insert stays", List.of(2001, 11, 1001), Check.openOf(relay, 1, true));
-        Check.same("the greater origin's comes behind it", "xybd", Check.textOf(relay, 1));
-        pushAll(relay, 1);
-        handOn(relay);
-        texts(relay, "rows", "xybd");
-    }
-
-    /** A side knows that its changes were got by the number in the message, not by the time it comes. */
-    private static void knowing() {
-        EditRelay relay = new EditRelay();
-        relay.insert(2, 0, 'b');
-        relay.push(2);
-        relay.insert(1, 0, 'a');
-        relay.push(1);
-        relay.nod(2);
-        relay.push(2);
-        relay.pull(1);
-        Check.same("sent before the server got anything: still open", 1, relay.open(1, true));
-        relay.pull(1);
-        Check.same("sent afterwards: known", 0, relay.open(1, true));
-        Check.same("open towards 1", 2, relay.open(1, false));
-        relay.nod(1);
-        Check.same("still open towards 1 while the nod waits", 2, relay.open(1, false));
-        relay.push(1);
-        Check.same("known with the nod", 0, relay.open(1, false));
-        Check.same("the other lines' rows stay", List.of(2, 2), List.of(relay.open(2, false), relay.open(2, true)));
-        Check.same("towards 3 all is open", List.of(2, 1, 2002, 2001), Check.openOf(relay, 3, false));
-    }
-
     // ---- the promises
 
     private static void newObject() {
-        EditRelay relay = new EditRelay();
+        Relay relay = new Relay();
         Check.same("a new object",
                 "\"\" \"\" \"\" \"\" 1 up 0 0 [] 1 down 0 0 [] 2 up 0 0 [] 2 down 0 0 [] 3 up 0 0 [] 3 down 0 0 [] true true",
                 Check.stateOf(relay));
     }
 
     private static void insert() {
-        EditRelay relay = new EditRelay();
+        Relay relay = new Relay();
         Check.same("insert into nothing", 1, relay.insert(2, 0, 'b'));
         Check.same("insert at the end", 2, relay.insert(2, 1, 'd'));
         Check.same("insert in the middle", 3, relay.insert(2, 1, 'c'));
@@ -220,32 +70,8 @@ public final class PromisesTest {
         Check.refuses(relay, "insert at 1 into nothing", INDEX, () -> relay.insert(1, 1, 'a'));
     }
 
-    private static void insertLimits() {
-        EditRelay open = new EditRelay();
-        insertMany(open, 1, 15);
-        Check.same("the 16th open change", 16, open.insert(1, 0, 'x'));
-        Check.refuses(open, "a 17th open change", UNSUPPORTED, () -> open.insert(1, 0, 'x'));
-        Check.refuses(open, "insert at -1 with 16 open", INDEX, () -> open.insert(1, -1, 'x'));
-        Check.refuses(open, "no letter with 16 open", ARGUMENT, () -> open.insert(1, 0, '\n'));
-        Check.same("another client may", 1, open.insert(2, 0, 'y'));
-
-        EditRelay full = relayWith("012345678901234567890123456789012345678");
-        Check.same("the 40th letter", 40, full.insert(2, 39, 'z'));
-        Check.refuses(full, "a 41st letter", UNSUPPORTED, () -> full.insert(2, 0, 'z'));
-        Check.refuses(full, "insert at 41 of 40", INDEX, () -> full.insert(2, 41, 'z'));
-        Check.refuses(full, "no letter to 40", ARGUMENT, () -> full.insert(2, 0, (char) 31));
-        full.insert(3, 0, 'w');
-        handOn(full);
-        Check.same("more than 40 together", 41, full.size(2));
-        Check.refuses(full, "a 42nd letter", UNSUPPORTED, () -> full.insert(2, 0, 'z'));
-        full.delete(2, 0);
-        Check.refuses(full, "a 41st letter again", UNSUPPORTED, () -> full.insert(2, 0, 'z'));
-        full.delete(2, 0);
-        Check.same("the 40th letter again", 40, full.insert(2, 0, 'z'));
-    }
-
     private static void delete() {
-        EditRelay relay = relayWith("abcd");
+        Relay relay = Scenes.settledWith("abcd");
         Check.same("delete in the middle", (int) 'b', relay.delete(3, 1));
         Check.same("delete at the end", (int) 'd', relay.delete(3, 2));
         Check.same("delete at the start", (int) 'a', relay.delete(3, 0));
@@ -258,20 +84,20 @@ public final class PromisesTest {
         for (int at : new int[] {-1, 1, 2, Integer.MIN_VALUE, Integer.MAX_VALUE}) {
             Check.refuses(relay, "delete at " + at, INDEX, () -> relay.delete(3, at));
         }
-        handOn(relay);
+        Scenes.handOn(relay);
         texts(relay, "handed on", "c");
         Check.same("the last letter", (int) 'c', relay.delete(1, 0));
         Check.refuses(relay, "delete from nothing", INDEX, () -> relay.delete(1, 0));
 
-        EditRelay open = relayWith("ab");
-        nodMany(open, 2, 16 - open.open(2, true));
+        Relay open = Scenes.settledWith("ab");
+        Scenes.nod(open, 2, 16 - open.open(2, true));
         Check.refuses(open, "delete with 16 open", UNSUPPORTED, () -> open.delete(2, 0));
         Check.refuses(open, "delete at 2 with 16 open", INDEX, () -> open.delete(2, 2));
         Check.refuses(open, "delete by 4 with 16 open", ARGUMENT, () -> open.delete(4, 2));
     }
 
     private static void nod() {
-        EditRelay relay = relayWith("ab");
+        Relay relay = Scenes.settledWith("ab");
         String before = Check.textOf(relay, 1);
         int open = relay.open(1, true);
         relay.nod(1);
@@ -286,13 +112,13 @@ public final class PromisesTest {
         for (int client : NO_CLIENTS) {
             Check.refuses(relay, "nod by " + client, ARGUMENT, () -> relay.nod(client));
         }
-        nodMany(relay, 1, 16 - relay.open(1, true));
+        Scenes.nod(relay, 1, 16 - relay.open(1, true));
         Check.same("16 open nods", 16, relay.open(1, true));
         Check.refuses(relay, "nod with 16 open", UNSUPPORTED, () -> relay.nod(1));
     }
 
     private static void push() {
-        EditRelay relay = new EditRelay();
+        Relay relay = new Relay();
         relay.insert(2, 0, 'a');
         relay.insert(2, 1, 'b');
         relay.delete(2, 0);
@@ -317,7 +143,7 @@ public final class PromisesTest {
         for (int client : NO_CLIENTS) {
             Check.refuses(relay, "push of " + client, ARGUMENT, () -> relay.push(client));
         }
-        handOn(relay);
+        Scenes.handOn(relay);
         relay.delete(1, 0);
         relay.delete(3, 0);
         Check.same("the first delete of a letter", EditRelay.DELETE, relay.push(3));
@@ -325,55 +151,14 @@ public final class PromisesTest {
         Check.same("is handed on as such", 2001, relay.change(2, false, 1));
     }
 
-    private static void pushLimits() {
-        EditRelay relay = new EditRelay();
-        nodMany(relay, 1, 16);
-        nodMany(relay, 2, 12);
-        pushAll(relay, 1);
-        for (int i = 0; i < 7; i++) {
-            relay.push(2);
-        }
-        Check.same("23 open towards 3", 23, relay.open(3, false));
-        Check.same("the 24th", EditRelay.NOTHING, relay.push(2));
-        Check.same("24 wait for 3", 24, relay.waiting(3, false));
-        Check.refuses(relay, "a 25th", UNSUPPORTED, () -> relay.push(2));
-        Check.refuses(relay, "no message and 24 open", STATE, () -> relay.push(1));
-        Check.refuses(relay, "push of 0 and 24 open", ARGUMENT, () -> relay.push(0));
-        pullAll(relay, 3);
-        Check.same("none waits for 3 any more", 0, relay.waiting(3, false));
-        Check.refuses(relay, "a 25th, all got but not known", UNSUPPORTED, () -> relay.push(2));
-        relay.nod(3);
-        Check.same("24 open towards its own client do not hinder", EditRelay.NOTHING, relay.push(3));
-        Check.same("known by the nod", 0, relay.open(3, false));
-        Check.same("now the next", EditRelay.NOTHING, relay.push(2));
-
-        for (int full = 1; full <= 3; full++) {
-            pushLimitTowards(full);
-        }
-    }
-
-    private static void pushLimitTowards(int full) {
-        EditRelay relay = new EditRelay();
-        int one = full == 1 ? 2 : 1;
-        int two = 6 - full - one;
-        nodMany(relay, one, 13);
-        nodMany(relay, two, 13);
-        for (int i = 0; i < 12; i++) {
-            relay.push(one);
-            relay.push(two);
-        }
-        Check.refuses(relay, "push of " + one + ", 24 towards " + full, UNSUPPORTED, () -> relay.push(one));
-        Check.refuses(relay, "push of " + two + ", 24 towards " + full, UNSUPPORTED, () -> relay.push(two));
-    }
-
     private static void pull() {
-        EditRelay relay = new EditRelay();
+        Relay relay = new Relay();
         relay.insert(3, 0, 'a');
         relay.insert(3, 1, 'b');
         relay.delete(3, 0);
         relay.nod(3);
         Check.refuses(relay, "pull before the server has it", STATE, () -> relay.pull(1));
-        pushAll(relay, 3);
+        Scenes.pushAll(relay, 3);
         Check.same("pull an insert", EditRelay.INSERT, relay.pull(1));
         Check.same("the oldest first", "a", Check.textOf(relay, 1));
         Check.same("pull the next", EditRelay.INSERT, relay.pull(1));
@@ -387,7 +172,7 @@ public final class PromisesTest {
         for (int client : NO_CLIENTS) {
             Check.refuses(relay, "pull by " + client, ARGUMENT, () -> relay.pull(client));
         }
-        handOn(relay);
+        Scenes.handOn(relay);
         relay.delete(1, 0);
         relay.delete(2, 0);
         relay.push(1);
@@ -396,12 +181,12 @@ public final class PromisesTest {
     }
 
     private static void waiting() {
-        EditRelay relay = new EditRelay();
-        nodMany(relay, 1, 3);
+        Relay relay = new Relay();
+        Scenes.nod(relay, 1, 3);
         relay.nod(2);
         Check.same("up", List.of(3, 1, 0), ofAll(relay::waiting, true));
         Check.same("down", List.of(0, 0, 0), ofAll(relay::waiting, false));
-        pushAll(relay, 1);
+        Scenes.pushAll(relay, 1);
         relay.push(2);
         Check.same("up, all got", List.of(0, 0, 0), ofAll(relay::waiting, true));
         Check.same("down, all handed on", List.of(1, 3, 4), ofAll(relay::waiting, false));
@@ -411,8 +196,8 @@ public final class PromisesTest {
     }
 
     private static void got() {
-        EditRelay relay = new EditRelay();
-        nodMany(relay, 1, 3);
+        Relay relay = new Relay();
+        Scenes.nod(relay, 1, 3);
         relay.nod(2);
         Check.same("up, nothing got", List.of(0, 0, 0), ofAll(relay::got, true));
         relay.push(1);
@@ -420,7 +205,7 @@ public final class PromisesTest {
         relay.push(2);
         Check.same("up", List.of(2, 1, 0), ofAll(relay::got, true));
         Check.same("down, nothing got", List.of(0, 0, 0), ofAll(relay::got, false));
-        pullAll(relay, 3);
+        Scenes.pullAll(relay, 3);
         relay.pull(2);
         Check.same("down", List.of(0, 1, 3), ofAll(relay::got, false));
         Check.same("up as before", List.of(2, 1, 0), ofAll(relay::got, true));
@@ -428,18 +213,18 @@ public final class PromisesTest {
     }
 
     private static void open() {
-        EditRelay relay = new EditRelay();
-        nodMany(relay, 1, 3);
+        Relay relay = new Relay();
+        Scenes.nod(relay, 1, 3);
         relay.nod(2);
         Check.same("up", List.of(3, 1, 0), ofAll(relay::open, true));
         Check.same("down", List.of(0, 0, 0), ofAll(relay::open, false));
-        pushAll(relay, 1);
+        Scenes.pushAll(relay, 1);
         relay.push(2);
         Check.same("up, got but not known", List.of(3, 1, 0), ofAll(relay::open, true));
         Check.same("down, handed on", List.of(1, 3, 4), ofAll(relay::open, false));
         relay.pull(1);
         Check.same("up, known to 1", List.of(0, 1, 0), ofAll(relay::open, true));
-        pullAll(relay, 2);
+        Scenes.pullAll(relay, 2);
         Check.same("2 has not heard of its own", List.of(0, 1, 0), ofAll(relay::open, true));
         Check.same("down, got but not known", List.of(1, 3, 4), ofAll(relay::open, false));
         relay.nod(2);
@@ -449,7 +234,7 @@ public final class PromisesTest {
     }
 
     private static void change() {
-        EditRelay relay = new EditRelay();
+        Relay relay = new Relay();
         relay.insert(3, 0, 'a');
         relay.insert(3, 1, 'b');
         relay.insert(3, 2, 'c');
@@ -460,7 +245,7 @@ public final class PromisesTest {
         relay.push(2);
         relay.pull(3);
         Check.same("fitted to a lesser origin's insert", List.of(13, 23, 33, 1023, 2003), Check.openOf(relay, 3, true));
-        pushAll(relay, 3);
+        Scenes.pushAll(relay, 3);
         Check.same("towards 1, by two origins", List.of(2, 13, 23, 33, 1023, 2003), Check.openOf(relay, 1, false));
         Check.same("towards 3", List.of(2), Check.openOf(relay, 3, false));
         for (int i : new int[] {-1, 6, 24, Integer.MIN_VALUE, Integer.MAX_VALUE}) {
@@ -475,7 +260,7 @@ public final class PromisesTest {
             Check.refuses(relay, "change -1 of " + client, ARGUMENT, () -> relay.change(client, false, -1));
         }
         relay.nod(1);
-        pullAll(relay, 1);
+        Scenes.pullAll(relay, 1);
         relay.nod(1);
         relay.push(1);
         Check.same("the first nod tells of nothing", 6, relay.open(1, false));
@@ -484,7 +269,7 @@ public final class PromisesTest {
     }
 
     private static void size() {
-        EditRelay relay = new EditRelay();
+        Relay relay = new Relay();
         relay.insert(1, 0, 'a');
         relay.insert(1, 0, 'b');
         relay.push(1);
@@ -498,7 +283,7 @@ public final class PromisesTest {
     }
 
     private static void letter() {
-        EditRelay relay = new EditRelay();
+        Relay relay = new Relay();
         relay.insert(1, 0, 'b');
         relay.insert(1, 0, 'a');
         relay.push(1);
@@ -522,7 +307,7 @@ public final class PromisesTest {
 
     private static void alike() {
         for (int client = 1; client <= 3; client++) {
-            EditRelay relay = new EditRelay();
+            Relay relay = new Relay();
             relay.insert(client, 0, 'a');
             Check.same("one differs", false, relay.alike());
             relay.push(client);
@@ -534,12 +319,12 @@ public final class PromisesTest {
             relay.nod(client);
             Check.same("alike with a nod under way", true, relay.alike());
         }
-        EditRelay relay = new EditRelay();
-        insertMany(relay, 1, 2);
-        insertMany(relay, 2, 2);
-        insertMany(relay, 3, 2);
+        Relay relay = new Relay();
+        Scenes.insert(relay, 1, 2);
+        Scenes.insert(relay, 2, 2);
+        Scenes.insert(relay, 3, 2);
         Check.same("the server lacks", false, relay.alike());
-        EditRelay other = relayWith("abc");
+        Relay other = Scenes.settledWith("abc");
         other.delete(2, 2);
         other.insert(2, 2, 'd');
         Check.same("as long but not the same", false, other.alike());
@@ -551,7 +336,7 @@ public final class PromisesTest {
 
     private static void quiet() {
         for (int client = 1; client <= 3; client++) {
-            EditRelay relay = new EditRelay();
+            Relay relay = new Relay();
             Check.same("at first", true, relay.quiet());
             relay.nod(client);
             Check.same("one waits up", false, relay.quiet());
@@ -565,31 +350,9 @@ public final class PromisesTest {
         }
     }
 
-    /** 28 letters that all have, and 12 more by each that the others do not know: 64, the most there can be. */
-    private static void greatestTexts() {
-        EditRelay relay = relayWith("0123456789012345678901234567");
-        for (int client = 1; client <= 3; client++) {
-            insertMany(relay, client, 12);
-            Check.same("the letters that " + client + " knows of", 40, relay.size(client));
-        }
-        for (int i = 0; i < 12; i++) {
-            relay.push(1);
-            relay.push(2);
-            relay.push(3);
-        }
-        Check.same("open towards all", List.of(24, 24, 24), ofAll(relay::open, false));
-        Check.same("the server's letters", 64, relay.size(0));
-        handOn(relay);
-        Check.same("the clients' letters", List.of(64, 64, 64), List.of(relay.size(1), relay.size(2), relay.size(3)));
-        Check.same("alike", true, relay.alike());
-        Check.same("the last letter", (int) '7', relay.letter(1, 63));
-        Check.refuses(relay, "letter 64 of 64", INDEX, () -> relay.letter(1, 64));
-        Check.same("delete the last", (int) '7', relay.delete(1, 63));
-    }
-
     private static void objectsApart() {
-        EditRelay one = new EditRelay();
-        EditRelay two = new EditRelay();
+        Relay one = new Relay();
+        Relay two = new Relay();
         String before = Check.stateOf(two);
         one.insert(1, 0, 'a');
         one.push(1);
@@ -607,7 +370,7 @@ public final class PromisesTest {
         return List.of(question.ask(1, up), question.ask(2, up), question.ask(3, up));
     }
 
-    private static void refusesNoClients(EditRelay relay, String what, Question question) {
+    private static void refusesNoClients(Relay relay, String what, Question question) {
         for (int client : NO_CLIENTS) {
             Check.refuses(relay, what + " up of " + client, ARGUMENT, () -> question.ask(client, true));
             Check.refuses(relay, what + " down of " + client, ARGUMENT, () -> question.ask(client, false));
