@@ -324,11 +324,11 @@ public final class EditRelay {
         }
 
         Change openChange(int i) {
-            return opens[(known + i) % room];
+            return opens[slotOf(known + i)];
         }
 
         void send(Change change, int heard) {
-            int slot = sent % room;
+            int slot = slotOf(sent);
             messages[slot].copyFrom(change);
             opens[slot].copyFrom(change);
             heards[slot] = heard;
@@ -337,11 +337,11 @@ public final class EditRelay {
 
         // Nobody reads a message twice, so the one who gets it may fit its change in place.
         Change oldestChange() {
-            return messages[got % room];
+            return messages[slotOf(got)];
         }
 
         int oldestHeard() {
-            return heards[got % room];
+            return heards[slotOf(got)];
         }
 
         void forget(int firstSent) {
@@ -353,6 +353,11 @@ public final class EditRelay {
             for (int i = 0; i < count; i++) {
                 Change.fitToEachOther(incoming, openChange(i));
             }
+        }
+
+        // The rows go round; floorMod, as a number of messages beyond all bounds would be below 0.
+        private int slotOf(int number) {
+            return Math.floorMod(number, room);
         }
     }
 }

@@ -522,8 +522,11 @@ public final class BoundariesTest {
     private static void aRefusedPushMayBeMadeLater() {
         Relay relay = Scenes.openTowards(3, 23);
         relay.insert(1, 0, 'a');
+        // The refused message would tell the server that all towards 1 is got.
+        Scenes.pullAll(relay, 1);
         relay.insert(1, 1, 'b');
         relay.push(1);
+        Check.same("open towards 1", 12, relay.open(1, false));
         Check.refuses(relay, "the insert of the b", UNSUPPORTED, () -> relay.push(1));
         Check.same("the server has the a", "a", Check.textOf(relay, 0));
         Check.same("no more has come to 2", List.of(2001, 1), Check.lastOpenOf(relay, 2, false, 2));
@@ -531,6 +534,7 @@ public final class BoundariesTest {
         relay.insert(3, 0, 'z');
         relay.push(3);
         Check.same("the insert of the b, later", EditRelay.INSERT, relay.push(1));
+        Check.same("now what 1 has got is known", List.of(3), Check.openOf(relay, 1, false));
         Check.same("behind the a", "zab", Check.textOf(relay, 0));
     }
 

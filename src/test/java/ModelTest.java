@@ -1,3 +1,4 @@
+import java.util.Arrays;
 import java.util.Random;
 import java.util.function.IntSupplier;
 
@@ -22,6 +23,17 @@ public final class ModelTest {
         for (int i = 0; i < weights.length; i++) {
             weights[i] = 1 + random.nextInt(random.nextBoolean() ? 4 : 20);
         }
+        if (run % 5 == 0) {
+            fillTexts();
+        }
+    }
+
+    /** Hardly anything but inserts, that come through: texts become full. */
+    private void fillTexts() {
+        Arrays.fill(weights, 1);
+        weights[0] = 20;
+        weights[3] = 15;
+        weights[4] = 30;
     }
 
     public static void main(String[] args) {
