@@ -37,6 +37,7 @@ public final class BoundariesTest {
         pushAnswersWhatIsDone();
         aRefusedPushMayBeMadeLater();
         allJammed();
+        twoThatAreFullJamAll();
         pullWhenNoneWaits();
         pullAnswersWhatIsDone();
         pullHasNoLimit();
@@ -554,6 +555,30 @@ public final class BoundariesTest {
         Check.same("pull goes on again", EditRelay.NOTHING, relay.pull(2));
         Check.same("sent when one of 2 was got", 15, relay.open(2, true));
         relay.nod(2);
+    }
+
+    /** Each of the three has one of the two among its other two. */
+    private static void twoThatAreFullJamAll() {
+        for (int free = 1; free <= 3; free++) {
+            Relay relay = new Relay();
+            int one = Scenes.lesserOther(free);
+            int two = Scenes.greaterOther(free);
+            Scenes.nod(relay, free, 16);
+            Scenes.pushAll(relay, free);
+            Scenes.nod(relay, one, 8);
+            Scenes.nod(relay, two, 8);
+            Scenes.handUp(relay);
+            Check.same("open towards " + one, 24, relay.open(one, false));
+            Check.same("open towards " + two, 24, relay.open(two, false));
+            Check.same("open towards " + free, 16, relay.open(free, false));
+            for (int client = 1; client <= 3; client++) {
+                int each = client;
+                Scenes.pullAll(relay, client);
+                relay.nod(client);
+                Check.refuses(relay, "push of " + client + ", only " + free + " is free", UNSUPPORTED, () -> relay.push(each));
+            }
+            Check.same("one of each waits on", List.of(1, 1, 1), ofAll(relay::waiting, true));
+        }
     }
 
     // ---- Promise 6

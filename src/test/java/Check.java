@@ -1,5 +1,6 @@
 import java.util.ArrayList;
 import java.util.List;
+import java.util.function.IntSupplier;
 
 /** What the tests share: comparing, telling what is wrong, and seeing the whole state of an object. */
 final class Check {
@@ -28,6 +29,15 @@ final class Check {
         try {
             call.run();
             return "nothing";
+        } catch (RuntimeException e) {
+            return e.getClass().getSimpleName();
+        }
+    }
+
+    /** The answer, or the name of what is thrown in its place. */
+    static String outcomeOf(IntSupplier call) {
+        try {
+            return Integer.toString(call.getAsInt());
         } catch (RuntimeException e) {
             return e.getClass().getSimpleName();
         }

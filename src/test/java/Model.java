@@ -167,6 +167,15 @@ final class Model {
         return state.append(alike()).append(' ').append(quiet()).toString();
     }
 
+    /** The state together with what no call shows: what waits, and the numbers that it bears. */
+    String stateWithMessages() {
+        StringBuilder state = new StringBuilder(state());
+        for (int client = 1; client <= 3; client++) {
+            state.append(ups[client].messages).append(downs[client].messages);
+        }
+        return state.toString();
+    }
+
     private static String told(Line line) {
         List<Integer> open = new ArrayList<>();
         for (Open b : line.open) {

@@ -48,6 +48,9 @@ public final class ModelTest {
         int length = run % 3 == 0 ? most : 1 + random.nextInt(most);
         while (calls < length) {
             anyCall();
+            if (model.quiet()) {
+                Check.same("run " + run + ", call " + calls + ": alike while quiet", true, model.alike());
+            }
             if (tame && nearJam()) {
                 handOnAndNod();
             }
@@ -191,14 +194,6 @@ public final class ModelTest {
         if (calls > Relay.MOST_CALLS) {
             throw new AssertionError("a run asks more of an object than the document promises");
         }
-        Check.same("run " + run + ", call " + calls + ": " + call, outcome(due), outcome(answered));
-    }
-
-    private static String outcome(IntSupplier call) {
-        try {
-            return Integer.toString(call.getAsInt());
-        } catch (RuntimeException e) {
-            return e.getClass().getSimpleName();
-        }
+        Check.same("run " + run + ", call " + calls + ": " + call, Check.outcomeOf(due), Check.outcomeOf(answered));
     }
 }

@@ -25,6 +25,7 @@ public final class PromisesTest {
         alike();
         quiet();
         objectsApart();
+        theExampleOfTheReadme();
         Check.end("PromisesTest");
     }
 
@@ -358,6 +359,27 @@ public final class PromisesTest {
         one.push(1);
         one.pull(2);
         Check.same("another object", before, Check.stateOf(two));
+    }
+
+    private static void theExampleOfTheReadme() {
+        Relay relay = new Relay();
+        Check.same("insert by 1", 1, relay.insert(1, 0, 'a'));
+        Check.same("insert by 2", 1, relay.insert(2, 0, 'b'));
+        Check.same("push of 1", EditRelay.INSERT, relay.push(1));
+        Check.same("push of 2", EditRelay.INSERT, relay.push(2));
+        Check.same("pull by 1", EditRelay.INSERT, relay.pull(1));
+        Check.same("pull by 2", EditRelay.INSERT, relay.pull(2));
+        Check.same("first pull by 3", EditRelay.INSERT, relay.pull(3));
+        Check.same("second pull by 3", EditRelay.INSERT, relay.pull(3));
+        Check.same("alike", true, relay.alike());
+        Check.same("quiet", true, relay.quiet());
+        texts(relay, "the example of README.md", "ab");
+        Check.same("open on the side of 1", List.of(), Check.openOf(relay, 1, true));
+        Check.same("open on the side of 2", List.of(12), Check.openOf(relay, 2, true));
+        relay.nod(1);
+        relay.push(1);
+        relay.pull(2);
+        Check.same("open on the side of 2, told by the nod of 1", List.of(), Check.openOf(relay, 2, true));
     }
 
     // ---- helpers for what is asked by client and direction
