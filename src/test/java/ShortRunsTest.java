@@ -4,9 +4,9 @@ import java.util.List;
 import java.util.Set;
 
 /**
- * Every run of a few calls: the last answer and the whole state as the model has them, and, as the document's
- * first sentence says, all copies the same when all has been handed on. A state that was seen before is not
- * gone on from again.
+ * Every run of a few acting calls, at either end of a text and with one letter for each client: the last answer
+ * and the whole state as the model has them, and, as the document's first sentence says, all copies the same
+ * when all has been handed on. A state that was seen before is not gone on from again.
  */
 public final class ShortRunsTest {
     private enum Kind {
